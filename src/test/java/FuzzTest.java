@@ -218,7 +218,11 @@ public final class FuzzTest {
 
     // ---- Calls
 
+    /** Below n for the most part, else beside it or far off. */
     private int arg(int n) {
+        if (below(200) == 0) {
+            return below(3) == 0 ? Integer.MIN_VALUE : below(2) == 0 ? Integer.MAX_VALUE : random.nextInt();
+        }
         return below(30) == 0 ? below(3) - 1 + (below(2) == 0 ? n : 0) : n > 0 ? below(n) : 0;
     }
 
@@ -235,7 +239,7 @@ public final class FuzzTest {
                 due("feed(" + a + ", " + b + ",1,2,3)", real.feed(a, b, 1, 2, 3), model.feed(a, b, 1, 2, 3));
             }
             case 2 -> {
-                int n = below(30) - 2;
+                int n = below(100) == 0 ? arg(1) : below(30) - 2;
                 due("back(" + n + ")", real.back(n), model.back(n));
             }
             case 3 -> {
@@ -260,15 +264,15 @@ public final class FuzzTest {
             case 22, 23 -> due("undo()", bit(real.undo()), bit(model.undo()));
             case 24, 25, 26 -> told();
             case 27 -> {
-                int slot = below(5) - 1;
+                int slot = below(30) == 0 ? arg(1) : below(5) - 1;
                 due("hold(" + slot + ")", bit(real.hold(slot)), bit(model.hold(slot)));
             }
             case 28 -> {
-                int slot = below(5) - 1;
+                int slot = below(30) == 0 ? arg(1) : below(5) - 1;
                 due("restore(" + slot + ")", bit(real.restore(slot)), bit(model.restore(slot)));
             }
             case 29, 30 -> {
-                int what = below(18) - 1;
+                int what = below(50) == 0 ? arg(1) : below(18) - 1;
                 due("count(" + what + ")", real.count(what), model.count(what));
             }
             default -> wouldBe();
@@ -280,7 +284,7 @@ public final class FuzzTest {
         int dish = arg(real.count(1));
         int guest = arg(real.count(2));
         int deed = arg(real.count(3));
-        int what = below(9) - 1;
+        int what = below(50) == 0 ? arg(1) : below(9) - 1;
         due("food(" + food + ", " + what + ")", real.food(food, what), model.food(food, what));
         due("dish(" + dish + ", " + what + ")", real.dish(dish, what), model.dish(dish, what));
         due("amount(" + dish + ", " + food + ")", real.amount(dish, food), model.amount(dish, food));
@@ -341,7 +345,7 @@ public final class FuzzTest {
                         model.feud(guest, deed, other));
             }
             case 4, 5 -> {
-                int n = 1 + arg(4);
+                int n = below(50) == 0 ? arg(4) : 1 + below(4);
                 int set = below(2) == 0 ? arg(1 << real.count(3)) : real.count(3) > 0 ? 1 << below(real.count(3)) : 0;
                 for (int i = -2; i <= 4; i++) {
                     due("menu(" + guest + ", " + n + ", " + set + ", " + i + ")", real.menu(guest, n, set, i),
@@ -365,7 +369,7 @@ public final class FuzzTest {
             default -> {
                 int force = arg(3);
                 int f = arg(below(2) == 0 ? 100 : 15);
-                int s = 1 + arg(20);
+                int s = below(50) == 0 ? arg(21) : 1 + below(20);
                 due("year(" + dish + ", " + force + ", " + f + ", " + s + ")", real.year(dish, force, f, s),
                         model.year(dish, force, f, s));
             }
