@@ -827,6 +827,8 @@ public final class PromisesTest {
         law.tell(1, 0, 5);
         due("5: roast, with salt, less salt", law.blame(1), 3);
         due("roast in all", law.sure(1), 1);
+        due("not all are roast by none", law.sure(0), -2);
+        due("roast again", law.sure(1), 1);
         // of one FOOD nothing can go
         CookedLaw one = Check.land("food a 1 1 1 1 1; dish d 1 a;");
         due("as told, with one more", one.blame(0), 2);

@@ -41,7 +41,9 @@ public final class TextTest {
         Check.due("back(2000)", law.back(2000), -1);
         Check.due("back(min)", law.back(Integer.MIN_VALUE), -1);
         Check.due("back(max)", law.back(Integer.MAX_VALUE), -1);
-        Check.due("back(19)", law.back(19), 1980);
+        Check.due("back(18)", law.back(18), 1981);
+        Check.due("feed over 2000 by 1", law.feed(0, 0, 0, 0, 0), -1);
+        Check.due("back(1)", law.back(1), 1980);
         Check.due("feed to 2000", law.feed(0x20202020, 0x20202020, 0x20202020, 0x20202020, 0x20202020), 2000);
         Check.due("read() of blanks", law.read(), 0);
         Check.due("bytes", law.count(10), 0);
