@@ -4,6 +4,10 @@ import java.util.Random;
 
 /** Random runs of calls, each answered by CookedLaw and by Model. Argument: how many runs. */
 public final class FuzzTest {
+    // An object is used for at most 512 calls; a text takes up to 110 of them, other steps up to 30.
+    private static final int CALLS = 512;
+    private static final int OF_A_TEXT = 110;
+    private static final int OF_A_STEP = 30;
     private static final String[] VARS = {"sum", "heat", "kind", "many", "day", "palate", "ago", "stock", "price"};
     private static final String[] TOKENS = {"food", "dish", "guest", "deed", "force", "binds", "fills", "slips", "seed", "if",
         "then", "else", "sum", "heat", ";", "=", "+", "-", "*", "/", "<", "(", ")", "a", "b", "zz", "abcdefgh",
@@ -14,6 +18,7 @@ public final class FuzzTest {
     private Model model = new Model();
     private final StringBuilder trace = new StringBuilder();
     private boolean wrong;
+    private int made;
 
     private FuzzTest(long seed) {
         random = new Random(seed);
@@ -46,10 +51,10 @@ public final class FuzzTest {
 
     private void run(int number) {
         int calls = 40 + below(200);
-        for (int i = 0; number % 10 != 0 && i < 8 && (real.count(1) == 0 || real.count(2) == 0); i++) {
+        for (int i = 0; number % 10 != 0 && i < 8 && (have(1) == 0 || have(2) == 0); i++) {
             text();
         }
-        for (int i = 0; i < calls && !wrong; i++) {
+        for (int i = 0; i < calls && !wrong && made < CALLS - 2 * OF_A_STEP; i++) {
             call();
         }
         for (int what = -1; what < 17 && !wrong; what++) {
@@ -57,7 +62,13 @@ public final class FuzzTest {
         }
     }
 
+    private int have(int what) {
+        made++;
+        return real.count(what);
+    }
+
     private void due(String call, long got, long want) {
+        made++;
         trace.append(call).append(" = ").append(want);
         if (got != want) {
             wrong = true;
@@ -73,6 +84,9 @@ public final class FuzzTest {
     // ---- Texts
 
     private void text() {
+        if (made > CALLS - OF_A_TEXT - 2 * OF_A_STEP) {
+            return;
+        }
         String text = below(12) == 0 ? noise() : tells();
         if (below(12) == 0) {
             text = spoiled(text);
@@ -81,9 +95,9 @@ public final class FuzzTest {
             text = text.substring(0, 1990);
         }
         trace.append("text: ").append(text.replace('\n', ' ')).append('\n');
-        int have = real.count(10);
-        if (have > 0 && below(10) > 0) {
-            due("back(" + have + ")", real.back(have), model.back(have));
+        int bytes = have(10);
+        if (bytes > 0 && below(10) > 0) {
+            due("back(" + bytes + ")", real.back(bytes), model.back(bytes));
         }
         feed(text);
         due("read()", real.read(), model.read());
@@ -250,11 +264,11 @@ public final class FuzzTest {
             }
             case 4, 5, 6, 7 -> look();
             case 8, 9, 10, 11, 12, 13 -> {
-                int d = arg(real.count(1));
+                int d = arg(have(1));
                 due("cook(" + d + ")", real.cook(d), model.cook(d));
             }
             case 14, 15, 16, 17, 18 -> {
-                int g = arg(real.count(2));
+                int g = arg(have(2));
                 due("eat(" + g + ")", real.eat(g), model.eat(g));
             }
             case 19, 20, 21 -> {
@@ -280,10 +294,10 @@ public final class FuzzTest {
     }
 
     private void look() {
-        int food = arg(real.count(0));
-        int dish = arg(real.count(1));
-        int guest = arg(real.count(2));
-        int deed = arg(real.count(3));
+        int food = arg(have(0));
+        int dish = arg(have(1));
+        int guest = arg(have(2));
+        int deed = arg(have(3));
         int what = below(50) == 0 ? arg(1) : below(9) - 1;
         due("food(" + food + ", " + what + ")", real.food(food, what), model.food(food, what));
         due("dish(" + dish + ", " + what + ")", real.dish(dish, what), model.dish(dish, what));
@@ -293,7 +307,7 @@ public final class FuzzTest {
     }
 
     private void told() {
-        int k = arg(real.count(12) + 1);
+        int k = arg(have(12) + 1);
         switch (below(8)) {
             case 0 -> {
                 if (below(6) == 0) {
@@ -313,10 +327,10 @@ public final class FuzzTest {
     }
 
     private void wouldBe() {
-        int food = arg(real.count(0));
-        int dish = arg(real.count(1));
-        int guest = arg(real.count(2));
-        int deed = arg(real.count(3));
+        int food = arg(have(0));
+        int dish = arg(have(1));
+        int guest = arg(have(2));
+        int deed = arg(have(3));
         switch (below(10)) {
             case 0 -> {
                 int a = below(2) == 0 ? 0 : arg(below(2) == 0 ? 100 : 20);
@@ -338,13 +352,13 @@ public final class FuzzTest {
                 due("supper()", real.supper(), model.supper());
             }
             case 3 -> {
-                int other = arg(real.count(3));
+                int other = arg(have(3));
                 due("feud(" + guest + ", " + deed + ", " + other + ")", real.feud(guest, deed, other),
                         model.feud(guest, deed, other));
             }
             case 4, 5 -> {
                 int n = below(50) == 0 ? arg(4) : 1 + below(4);
-                int set = below(2) == 0 ? arg(1 << real.count(3)) : real.count(3) > 0 ? 1 << below(real.count(3)) : 0;
+                int set = below(2) == 0 ? arg(1 << have(3)) : have(3) > 0 ? 1 << below(have(3)) : 0;
                 for (int i = -2; i <= 4; i++) {
                     due("menu(" + guest + ", " + n + ", " + set + ", " + i + ")", real.menu(guest, n, set, i),
                             model.menu(guest, n, set, i));
