@@ -32,6 +32,7 @@ public final class AskBoundsTest {
         fortyUndone();
         undoneOneByOne();
         heldAndGoneOn();
+        notHeld();
         counts();
         Check.end("AskBoundsTest");
     }
@@ -168,7 +169,8 @@ public final class AskBoundsTest {
         for (int first = 0; first < 6; first++) {
             StringBuilder text = new StringBuilder();
             for (int i = 0; i < 6; i++) {
-                text.append("food f").append((char) ('a' + i)).append(" 0 1 ").append(i < first ? "1 2 3;" : i % 2 == 0 ? "9 0 0;" : "0 4 5;");
+                text.append("food f").append((char) ('a' + i)).append(" 0 1 ")
+                        .append(i < first ? "1 2 3;" : i % 2 == 0 ? "9 0 0;" : "0 4 5;");
             }
             CookedLaw law = Check.land(text + "dish d 1 fc;");
             due("the first of alike ones", law.pinch(0, 0), first);
@@ -204,7 +206,8 @@ public final class AskBoundsTest {
         String deeds = "guest g 0; deed x 0 1; deed y 0 2; deed z 0 3; deed u 0 4; deed v 0 5; deed w 0 6;";
         String foods = "food a 0 1 1 0 0; food b 0 1 2 0 0; food c 0 1 9 0 0;";
         String[] dishes = {"dish d 1 a;", "dish d 1 b; dish e 1 a;", "dish d 1 a; dish e 1 b; dish f 1 a;", "dish d 1 c; dish e 1 c;",
-            "dish d 1 c; dish e 1 b; dish f 1 b; dish h 1 a; dish i 1 a;", "dish d 1 c; dish e 1 c; dish f 1 c; dish h 1 c; dish i 1 b;"};
+            "dish d 1 c; dish e 1 b; dish f 1 b; dish h 1 a; dish i 1 a;",
+            "dish d 1 c; dish e 1 c; dish f 1 c; dish h 1 c; dish i 1 b;"};
         int[] first = {0, 1, 0, 0, 3, 4};
         int[] many = {5, 5, 5, 0, 5, 4};
         for (int i = 0; i < dishes.length; i++) {
@@ -237,7 +240,8 @@ public final class AskBoundsTest {
         StringBuilder text = new StringBuilder("guest g 0; deed x 0 2; deed y 0 4; deed z 1 0; deed u 1 99;");
         String[] brings = {"1 0 0", "2 0 0", "3 0 0", "4 0 0", "0 0 0"};
         for (int i = 0; i < 5; i++) {
-            text.append("food f").append((char) ('a' + i)).append(" 0 1 ").append(brings[i]).append("; dish d").append((char) ('a' + i))
+            text.append("food f").append((char) ('a' + i)).append(" 0 1 ").append(brings[i])
+                    .append("; dish d").append((char) ('a' + i))
                     .append(" 1 f").append((char) ('a' + i)).append(';');
         }
         CookedLaw law = Check.land(text.toString());
@@ -431,7 +435,8 @@ public final class AskBoundsTest {
         due("LIMIT 9", limits.hunger(0, 2), 1);
         due("LIMIT 10", limits.hunger(0, 3), 0);
         // the first day on which it is free, though it is barred later
-        CookedLaw first = Check.land("food a 9 1 9 9 9; dish d 1 a; guest g 1; deed x 1 5; binds = if ago < 3 then 9 else if ago < 5 then 1 else 9;");
+        CookedLaw first = Check.land("food a 9 1 9 9 9; dish d 1 a; guest g 1; deed x 1 5;"
+                + "binds = if ago < 3 then 9 else if ago < 5 then 1 else 9;");
         first.cook(0);
         first.eat(0);
         due("the first", first.hunger(0, 0), 3);
@@ -441,7 +446,8 @@ public final class AskBoundsTest {
 
     // IN n DAYS (0 .. 60): the STOCK of a FOOD; by how much a GUEST is BOUND by a FORCE.
     private static void inDays() {
-        String text = "food a 3 4 9 5 1; food b 50 2 1 1 1; dish d 1 a; guest g 3; deed x 0 1; fills = if stock < 40 then day - price else 0 - day;"
+        String text = "food a 3 4 9 5 1; food b 50 2 1 1 1; dish d 1 a; guest g 3; deed x 0 1;"
+                + "fills = if stock < 40 then day - price else 0 - day;"
                 + "binds = sum * 3 - ago * palate + day / 7 + kind;";
         for (int n : new int[] {0, 1, 2, 30, 59, 60}) {
             CookedLaw law = Check.land(text);
@@ -556,7 +562,8 @@ public final class AskBoundsTest {
     // or with one less of one that is in it (but 1 at least in all).
     private static void blameOneLess() {
         String foods = "food a 0 1 1 0 0; food b 0 1 0 1 0; food c 0 1 0 0 1;";
-        String[] dishes = {"dish d 1 a;", "dish d 1 a a;", "dish d 1 a b;", "dish d 1 a b c;", "dish d 1 a a b b c c;", "dish d 1 a a a a a a;"};
+        String[] dishes = {"dish d 1 a;", "dish d 1 a a;", "dish d 1 a b;", "dish d 1 a b c;",
+            "dish d 1 a a b b c c;", "dish d 1 a a a a a a;"};
         int[] less = {0, 1, 2, 3, 3, 1};
         for (int i = 0; i < dishes.length; i++) {
             CookedLaw law = Check.land(foods + dishes[i]);
@@ -660,7 +667,8 @@ public final class AskBoundsTest {
         CookedLaw third = Check.land("food a 0 1 1 1 1; food b 0 1 0 0 3; dish d 1 a a b b;");
         due("FORCE 2", third.taste(0), 20);
         // sums 2 3 1 and 4 5 3: divided by 5 they are 0 but for one, by 4 but for two
-        CookedLaw halves = Check.land("food a 0 1 1 0 0; dish d 1 a a; dish e 1 a a a a; force = if heat < 5 then sum / 5 else sum / 4;");
+        CookedLaw halves = Check.land("food a 0 1 1 0 0; dish d 1 a a; dish e 1 a a a a;"
+                + "force = if heat < 5 then sum / 5 else sum / 4;");
         due("4 at worst, not 5", halves.taste(0), 5);
         // below HEAT 5: 1, 2, 3 3 4, 5 apart; from it on: 1 2, 3 3, 4 5: fewer ways apart, but fewer are left at worst
         CookedLaw ways = Check.land("food a 0 1 1 0 0; dish d 1 a a; dish e 1 a a a a; force = if 0 < kind then 0 else "
@@ -678,7 +686,8 @@ public final class AskBoundsTest {
         due("of all 65, FORCE 1 leaves 5", Check.land(all.toString()).taste(0), 10);
         CookedLaw ten = Check.land("food a 0 1 1 1 1; dish d 1 a a; force = if heat < 10 then 5 else sum;");
         due("there is no HEAT 10", ten.taste(0), 0);
-        CookedLaw far = Check.land("food a 0 1 1 1 1; dish d 1 a a a; force = if kind < 2 then 0 else if heat < 9 then 7 else 95 + sum;");
+        CookedLaw far = Check.land("food a 0 1 1 1 1; dish d 1 a a a;"
+                + "force = if kind < 2 then 0 else if heat < 9 then 7 else 95 + sum;");
         due("the last of all: 98, 99, 97", far.taste(0), 29);
         far.tell(2, 9, 97);
         due("one is left: the first", far.taste(1), 0);
@@ -694,8 +703,8 @@ public final class AskBoundsTest {
         }
         for (int kind = 0; kind < 3; kind++) {
             for (int heat = 0; heat < 10; heat++) {
-                CookedLaw law = Check.land("food a 0 1 1 1 1; dish d 1 a a; force = if kind < " + kind + " then 5 else if heat < " + heat
-                        + " then 5 else sum;");
+                CookedLaw law = Check.land("food a 0 1 1 1 1; dish d 1 a a; force = if kind < " + kind
+                        + " then 5 else if heat < " + heat + " then 5 else sum;");
                 due("from FORCE " + kind + ", HEAT " + heat + " on", law.taste(0), 10 * kind + heat);
                 law.tell(kind, heat, 2);
                 due("one is left: all are alike", law.taste(1), 0);
@@ -795,6 +804,32 @@ public final class AskBoundsTest {
         due("SLOTS", law.count(13), 3);
         due("restore(1)", law.restore(1), true);
         due("the others are as they were", gone(law).equals(held[1]), true);
+    }
+
+    // hold: All that goes on (not what is TOLD, nor the tape).
+    private static void notHeld() {
+        CookedLaw law = Check.land("food a 9 2 1 2 3; dish d 1 a; guest g 1; deed x 0 3;");
+        Check.feed(law, "&");
+        due("read()", law.read(), 1);
+        law.cook(0);
+        law.tell(0, 0, 1);
+        Check.feed(law, "guest g");
+        law.hold(1);
+        law.tell(0, 0, 2);
+        Check.feed(law, " 10;");
+        law.cook(0);
+        due("undo()", law.undo(), true);
+        due("restore(1)", law.restore(1), true);
+        due("TOLD", law.count(12), 2);
+        due("KNOWN by 1: as told", law.blame(1), 1);
+        due("KNOWN by 2: none", law.blame(2), 0);
+        due("bytes", law.count(10), 11);
+        due("place()", law.place(), 0);
+        due("read() of all that was fed", law.read(), 5);
+        due("place()", law.place(), 8);
+        due("restore(1)", law.restore(1), true);
+        due("place() stays", law.place(), 8);
+        due("the tape stays empty", law.count(10), 0);
     }
 
     private static String gone(CookedLaw law) {
